@@ -44,7 +44,7 @@ public final class LetterPost {
         }
         for (int f = 0; f < reader.functionCount; f++) {
             Function made = reader.functionAt(f);
-            if (made == null || !maker.draw(made, 0, made.allRows())) {
+            if (made == null || !maker.draw(made, TreeMaker.FIRST_PLACE, made.allRows())) {
                 reader.forgetText();
                 return FULL;
             }
@@ -75,7 +75,7 @@ public final class LetterPost {
 
     public int remake(int function, int way) {
         Function asked = reader.functionAt(function);
-        if (asked == null || way < 0 || way > TreeMaker.LAST_PLACE) {
+        if (asked == null || way < TreeMaker.FIRST_PLACE || way > TreeMaker.LAST_PLACE) {
             return BAD;
         }
         if (!maker.draw(asked, way, asked.allRows())) {
@@ -130,7 +130,7 @@ public final class LetterPost {
         if (asked == null) {
             return BAD;
         }
-        if (!maker.draw(asked, 0, asked.unguardedRows())) {
+        if (!maker.draw(asked, TreeMaker.FIRST_PLACE, asked.unguardedRows())) {
             return FULL;
         }
         return maker.spare.hasNone() ? 1 : 0;
@@ -141,7 +141,7 @@ public final class LetterPost {
         if (asked == null || rule < 0 || rule >= asked.ruleCount) {
             return BAD;
         }
-        if (!maker.draw(asked, 0, asked.allRows())) {
+        if (!maker.draw(asked, TreeMaker.FIRST_PLACE, asked.allRows())) {
             return FULL;
         }
         return asked.comesTo(maker.spare, rule) ? 0 : 1;
@@ -260,7 +260,6 @@ public final class LetterPost {
         /** Cuts the whole tape; nothing behind a wrong token is looked at, for reading ends there at the latest. */
         void cut() {
             size = 0;
-            at = 0;
             int from = 0;
             boolean more = true;
             for (int i = 0; i <= TAPE && more; i++) {
@@ -269,13 +268,8 @@ public final class LetterPost {
                 more = latest != END && latest != WRONG;
             }
             length = 0;
-            look();
-        }
-
-        private void look() {
-            type = types[at];
-            spot = spots[at];
-            worth = worths[at];
+            at = -1;
+            step();
         }
 
         private int behindBlanks(int from) {
@@ -391,7 +385,9 @@ public final class LetterPost {
         void step() {
             if (at + 1 < size) {
                 at++;
-                look();
+                type = types[at];
+                spot = spots[at];
+                worth = worths[at];
             }
         }
     }
@@ -406,7 +402,7 @@ public final class LetterPost {
         int size;
         private final long[] names = new long[MOST];
         private final int[] under = new int[MOST];
-        private final boolean[] sealed = new boolean[MOST];
+        private final boolean[] hasUnder = new boolean[MOST];
         private final int[] partCounts = new int[MOST];
         private final int[] parts = new int[MOST * MOST_PARTS];
 
@@ -430,7 +426,7 @@ public final class LetterPost {
             }
             names[size] = name;
             under[size] = -1;
-            sealed[size] = false;
+            hasUnder[size] = false;
             partCounts[size] = 0;
             size++;
             return size - 1;
@@ -439,7 +435,7 @@ public final class LetterPost {
         void putUnder(int k, int upper) {
             if (has(k) && has(upper)) {
                 under[k] = upper;
-                sealed[upper] = true;
+                hasUnder[upper] = true;
             }
         }
 
@@ -451,7 +447,7 @@ public final class LetterPost {
         }
 
         int partCount(int k) {
-            return has(k) ? partCounts[k] : 0;
+            return k >= 0 && k < size ? partCounts[k] : 0;
         }
 
         int partSort(int k, int i) {
@@ -459,11 +455,11 @@ public final class LetterPost {
         }
 
         boolean isSealed(int k) {
-            return k >= 0 && k < size && sealed[k];
+            return k >= 0 && k < size && hasUnder[k];
         }
 
         boolean isLeaf(int k) {
-            return k >= 0 && k < size && !sealed[k];
+            return k >= 0 && k < size && !hasUnder[k];
         }
 
         boolean isOrUnder(int k, int upper) {
@@ -503,7 +499,7 @@ public final class LetterPost {
                 case 0:
                     return under[k] < 0 ? LetterPost.NONE : under[k];
                 case 1:
-                    return sealed[k] ? 1 : 0;
+                    return hasUnder[k] ? 1 : 0;
                 case 2:
                     return partCounts[k];
                 default:
@@ -639,7 +635,7 @@ public final class LetterPost {
         }
 
         void hide(int from, int to, boolean away) {
-            for (int i = from; i < to; i++) {
+            for (int i = from; i < to && i < MOST_HELD; i++) {
                 hidden[i] = away;
             }
         }
@@ -741,7 +737,7 @@ public final class LetterPost {
 
         private void holdName(long name, int place) {
             int i = rule.nameNumber(name);
-            if (i >= 0) {
+            if (i >= 0 && i < nameplaces.length) {
                 nameplaces[i] = place;
             }
         }
@@ -1217,28 +1213,19 @@ public final class LetterPost {
         }
 
         private void pushLastLabels(int sort) {
-            switch (sort) {
-                case Kinds.WHOLE:
-                    push(Integer.MAX_VALUE);
-                    break;
-                case Kinds.TRUTH:
-                    push(0);
-                    push(1);
-                    break;
-                case Kinds.TEXT:
-                    push(OTHERS);
-                    break;
-                default:
-                    pushLeaves(sort - Kinds.FIRST);
-                    break;
-            }
-        }
-
-        private void pushLeaves(int upper) {
-            push(Kinds.NOTHING);
-            for (int k = 0; k < kinds.size; k++) {
-                if (kinds.isLeaf(k) && kinds.isOrUnder(k, upper)) {
-                    push(k);
+            if (sort == Kinds.WHOLE) {
+                push(Integer.MAX_VALUE);
+            } else if (sort == Kinds.TRUTH) {
+                push(0);
+                push(1);
+            } else if (sort == Kinds.TEXT) {
+                push(OTHERS);
+            } else {
+                push(Kinds.NOTHING);
+                for (int k = 0; k < kinds.size; k++) {
+                    if (kinds.isLeaf(k) && kinds.isOrUnder(k, sort - Kinds.FIRST)) {
+                        push(k);
+                    }
                 }
             }
         }
@@ -1493,7 +1480,7 @@ public final class LetterPost {
         }
 
         private void keepBound(Rule rule) {
-            firstCount = rule.nameCount;
+            firstCount = Math.min(rule.nameCount, firstBound.length);
             System.arraycopy(held, 0, firstBound, 0, held.length);
         }
 
@@ -1545,7 +1532,7 @@ public final class LetterPost {
         }
 
         private void holdRow(Function function, Row row) {
-            for (int i = 0; i < row.rule.nameCount; i++) {
+            for (int i = 0; i < row.rule.nameCount && i < held.length; i++) {
                 held[i] = valueAt(function, row.nameplaces[i], 0);
             }
         }
@@ -1634,7 +1621,7 @@ public final class LetterPost {
 
         private void hold(Rule rule, long name, int v) {
             int i = rule.nameNumber(name);
-            if (i >= 0) {
+            if (i >= 0 && i < held.length) {
                 held[i] = v;
             }
         }
@@ -1701,8 +1688,8 @@ public final class LetterPost {
     private static final class Reader {
         /** How many others a pattern can not be within. */
         static final int DEEPEST = 6;
-        private static final int CANT_STAND = 2, THERE_ALREADY = 3, NOT_THERE = 4, UNSUITED = 5, COUNT = 6;
-        private static final int TURNED = 7, NOT_THE_SAME = 8, MUCH = 9;
+        static final int NO_TOKEN = 1, CANT_STAND = 2, THERE_ALREADY = 3, NOT_THERE = 4, UNSUITED = 5;
+        static final int COUNT = 6, TURNED = 7, NOT_THE_SAME = 8, MUCH = 9;
         private static final int MOST_FUNCTIONS = 12, MOST_ALTERNATIVES = 6;
         private static final int NO_NUMBER = Integer.MIN_VALUE;
 
@@ -1761,7 +1748,9 @@ public final class LetterPost {
         }
 
         private boolean failHere(int code) {
-            return failAt(tokens.type == Tokens.WRONG ? 1 : code, tokens.spot);
+            fault = tokens.type == Tokens.WRONG ? NO_TOKEN : code;
+            faultSpot = tokens.spot;
+            return false;
         }
 
         private boolean expect(int type) {

@@ -183,7 +183,7 @@ public final class FaultTest {
         faulty(6, "kind A(whole,whole);sort f(A){A(1@;):1;}");
         faulty(6, "sort f(whole){1@,2:1;}");
         faulty(6, "sort f(whole,whole){1@:1;}");
-        faulty(6, "sort f(whole,whole){1@ if 1<2:1;}".replace("@ ", " @"));
+        faulty(6, "sort f(whole,whole){1 @if 1<2:1;}");
         faulty(6, "sort f(whole,whole){1@");
         faulty(1, "sort f(whole,whole){1@#");
         faulty(6, "sort f(whole){n:@f(n,n);}");
@@ -191,7 +191,7 @@ public final class FaultTest {
         faulty(6, "sort f(whole,whole){n,m:@f(n);}");
         faulty(7, "sort f(whole){@2..1:1;}");
         faulty(7, "sort f(whole){@-1..-2:1;}");
-        faulty(7, "sort f(whole){@ 0..-1:1;}".replace("@ ", " @"));
+        faulty(7, "sort f(whole){ @0..-1:1;}");
         sound(1, "sort f(whole){-2..-1:1;3..3:2;}");
         faulty(8, "sort f(whole){@(a|1):1;}");
         faulty(8, "sort f(whole){@(1|a):1;}");
@@ -201,7 +201,7 @@ public final class FaultTest {
         faulty(8, "sort f(whole){(1|@(a|b)):1;}");
         faulty(2, "sort f(whole){(a|b@;:1;}");
         faulty(1, "sort f(whole){(a|b@#");
-        sound(1, "kind A(whole,whole);sort f(A){(A(x,y)|A(y,x)|(A(x,_) as z|_ as z)):1;}".replace("|(A(x,_) as z|_ as z)", ""));
+        sound(1, "kind A(whole,whole);sort f(A){(A(x,y)|A(y,x)):1;}");
         sound(1, "sort f(whole){((a|1 as a)|(2 as a|a)):a;}");
     }
 
@@ -232,11 +232,11 @@ public final class FaultTest {
         faulty(5, many("sort f(whole){", "_:%;", 16, "@'':1;}"));
         faulty(4, many("sort f(whole){", "_:%;", 16, "@A:1;}"));
         faulty(2, many("sort f(whole){", "_:%;", 16, "@,:1;}"));
-        faulty(1, many("sort f(whole){", "_:%;", 16, "@"  + "abcdefghi:1;}"));
+        faulty(1, many("sort f(whole){", "_:%;", 16, "@abcdefghi:1;}"));
         faulty(7, many("sort f(whole){", "_:%;", 16, "@2..1:1;}"));
         faulty(9, many("sort f(whole){", "_:%;", 16, "@1..2:1;}"));
         faulty(9, many("sort f(whole){", "_:%;", 16, "@(a|b):1;}"));
-        sound(1, "sort f(whole){((((((1))))):1;}".replace("((((((1)))))", "(((((1)))))"));
+        sound(1, "sort f(whole){(((((1))))):1;}");
         faulty(9, "sort f(whole){((((((@1)))))):1;}");
         faulty(5, "sort f(whole){((((((@'')))))):1;}");
         sound(1, "kind L(whole,L);sort f(L){L(_,L(_,L(_,L(_,L(_,L))))):1;}");
