@@ -236,6 +236,15 @@ public final class FaultTest {
         faulty(7, many("sort f(whole){", "_:%;", 16, "@2..1:1;}"));
         faulty(9, many("sort f(whole){", "_:%;", 16, "@1..2:1;}"));
         faulty(9, many("sort f(whole){", "_:%;", 16, "@(a|b):1;}"));
+        faulty(7, many("sort f(whole){", "_:%;", 16, "@-1..-2:1;}"));
+        faulty(7, many("sort f(whole){", "_:%;", 16, "@3..-4:1;}"));
+        faulty(9, many("sort f(whole){", "_:%;", 16, "@-2..-1:1;}"));
+        faulty(9, many("sort f(whole){", "_:%;", 16, "@-2..1:1;}"));
+        faulty(9, many("sort f(whole){", "_:%;", 16, "@5..5:1;}"));
+        faulty(9, many("sort f(whole){", "_:%;", 16, "@5..n:1;}"));
+        faulty(9, many("sort f(whole){", "_:%;", 16, "@5:4;}"));
+        faulty(9, many("sort f(whole){", "_:%;", 16, "@-x..1:4;}"));
+        faulty(9, many("sort f(whole){", "_:%;", 16, "@5.."));
         sound(1, "sort f(whole){(((((1))))):1;}");
         faulty(9, "sort f(whole){((((((@1)))))):1;}");
         faulty(5, "sort f(whole){((((((@'')))))):1;}");
@@ -265,6 +274,34 @@ public final class FaultTest {
         faulty(5, "sort f(whole,text){n,t:g(t,@n);}sort g(text,text){}");
         faulty(2, "sort f(whole){n:g(n);}@;");
         faulty(5, "sort f(whole){n:f(n);@'':1;}");
+    }
+
+    /** What an earlier text left behind on the tape must not be seen. */
+    private static void stale() {
+        String[] earlier = {"#............................'''''''''''", "#aaaaaaaaaaaaaaaaaaaaaaaaaaaaaaaaaaaaaa", "#11111111111111111111111111111111111111"};
+        String[] texts = {"sort f(text){@'a", "sort f(whole){1@.", "sort f(whole){1:1@", "sort @abcdefg", "kind A@"};
+        int[] codes = {1, 1, 2, 2, 2};
+        for (String first : earlier) {
+            for (int i = 0; i < texts.length; i++) {
+                int at = texts[i].indexOf('@');
+                String text = texts[i].replace("@", "");
+                LetterPost x = new LetterPost();
+                feedAll(x, first);
+                due("read " + first, x.read(), -10);
+                feedAll(x, text);
+                due("read " + text, x.read(), i == 3 ? -10 - text.length() : -10 - at);
+                due("fault of " + text, x.fault(), codes[i]);
+            }
+        }
+        LetterPost x = new LetterPost();
+        feedAll(x, many("", ";", 1600, ""));
+        due("1600 signs", x.read(), -10);
+        due("fault", x.fault(), 2);
+        feedAll(x, many("sort f(whole){n:f(n", ",n", 780, ");}"));
+        due("many handed over", x.read(), -10 - 16);
+        due("fault", x.fault(), 6);
+        feedAll(x, many("sort f(whole){n:1;}", " ", 1581, ""));
+        due("blanks to the end", x.read(), 1);
     }
 
     private static void late() {
@@ -309,6 +346,7 @@ public final class FaultTest {
         counts();
         much();
         order();
+        stale();
         late();
         System.out.println(wrong == 0 ? "all answers are as due" : wrong + " answers are not as due");
         if (wrong != 0) {

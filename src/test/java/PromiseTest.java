@@ -723,6 +723,46 @@ public final class PromiseTest {
         due("bound of no rule", x.bound(0), NONE);
     }
 
+    private static void deepest() {
+        promise = 25;
+        LetterPost x = read("kind L(whole,L);sort f(L,whole,L){L(_,L(_,L(_,L(_,L(e,d as g))))),(((((h as i))))),(none as a|L as a) as b:e;}", 1);
+        int nil = x.nothing();
+        int inner = nil;
+        int number = -1;
+        int d = -1;
+        int e = -1;
+        for (int i = 0; i < 5; i++) {
+            number = x.whole(i);
+            d = i == 0 ? inner : d;
+            e = i == 0 ? number : e;
+            inner = x.make(0, number, inner, 0, 0);
+        }
+        int[] want = {e, d, d, number, number, nil, nil};
+        for (int by = 0; by < 2; by++) {
+            due("fits", by == 0 ? x.sort(0, inner, number, nil) : x.plain(0, inner, number, nil), 0);
+            dueTold(x, 0, 0, 1, by == 0 ? 6 : 0, 0, 0, 0);
+            for (int i = 0; i < want.length; i++) {
+                due("bound " + i, x.bound(i), want[i]);
+            }
+            due("too short", by == 0 ? x.sort(0, d, number, nil) : x.plain(0, d, number, nil), NONE);
+        }
+        LetterPost y = read("kind K(whole,whole,whole,whole);sort f(K,K){K(a,b,c,d),K(e,g,h,i) if a<i:i;}", 1);
+        int[] v = new int[8];
+        for (int i = 0; i < 8; i++) {
+            v[i] = y.whole(i);
+        }
+        int k = y.make(0, v[0], v[1], v[2], v[3]);
+        int m = y.make(0, v[4], v[5], v[6], v[7]);
+        for (int by = 0; by < 2; by++) {
+            due("8 names", by == 0 ? y.sort(0, k, m, 0) : y.plain(0, k, m, 0), 0);
+            due("the 8th", y.told(1), 7);
+            for (int i = 0; i < 8; i++) {
+                due("bound " + i, y.bound(i), v[i]);
+            }
+            due("bound 8", y.bound(8), NONE);
+        }
+    }
+
     private static void count() {
         promise = 26;
         LetterPost x = read("kind A;kind B under A;sort f(A){}", 1);
@@ -760,6 +800,7 @@ public final class PromiseTest {
         sums();
         lateKinds();
         bound();
+        deepest();
         count();
         System.out.println(wrong == 0 ? "all answers are as due" : wrong + " answers are not as due");
         if (wrong != 0) {
