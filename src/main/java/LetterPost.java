@@ -566,18 +566,16 @@ public final class LetterPost {
     private static final class Rule {
         static final int MOST_NAMES = 8, MOST_ARGS = 3;
         static final int NUMBER = 0, NAME = 1, CALL = 2;
-        // while its patterns are read: 8 that are seen, and 8 that are hidden for each ( | ) that stands open
-        private static final int MOST_HELD = MOST_NAMES * (Reader.DEEPEST + 1);
 
         final int number;
         final int spot;
         Pattern patterns;
         int ways = 1;
+        /** All names so far, those that another alternative alone binds among them: the limit counts these, too. */
         int nameCount;
-        private final long[] names = new long[MOST_HELD];
-        final int[] nameSorts = new int[MOST_HELD];
-        /** Names of another alternative, while one is read. */
-        private final boolean[] hidden = new boolean[MOST_HELD];
+        private final long[] names = new long[MOST_NAMES];
+        /** Byte i is 1 more than the sort of name i; 0: the alternatives that are being read do not bind it. */
+        long bindings;
         /** The sign between the guard's sums; 0 without a guard. */
         int compare;
         final int[] signs = new int[2];
@@ -611,55 +609,30 @@ public final class LetterPost {
             return -1;
         }
 
+        /** The sort of a name as it is bound now, or -1. */
+        int nameSort(int i) {
+            return i >= 0 && i < nameCount ? (int) (bindings >>> (8 * i) & 255) - 1 : -1;
+        }
+
         /** The fault of binding a name here, 0 if it has none. */
         int nameFault(long name) {
-            int seen = 0;
-            for (int i = 0; i < nameCount; i++) {
-                if (!hidden[i]) {
-                    if (names[i] == name) {
-                        return Reader.THERE_ALREADY;
-                    }
-                    seen++;
-                }
+            int i = nameNumber(name);
+            if (i < 0) {
+                return nameCount >= MOST_NAMES ? Reader.MUCH : 0;
             }
-            return seen >= MOST_NAMES ? Reader.MUCH : 0;
+            return nameSort(i) < 0 ? 0 : Reader.THERE_ALREADY;
         }
 
         void hold(long name, int sort) {
-            if (nameCount < MOST_HELD) {
-                names[nameCount] = name;
-                nameSorts[nameCount] = sort;
-                hidden[nameCount] = false;
+            int i = nameNumber(name);
+            if (i < 0 && nameCount < MOST_NAMES) {
+                i = nameCount;
+                names[i] = name;
                 nameCount++;
             }
-        }
-
-        void hide(int from, int to, boolean away) {
-            for (int i = from; i < to && i < MOST_HELD; i++) {
-                hidden[i] = away;
+            if (i >= 0) {
+                bindings |= (sort + 1L) << (8 * i);
             }
-        }
-
-        /** Whether the names from one number to another, and those behind them, are the same, of the same sorts. */
-        boolean isSame(int from, int to) {
-            if (nameCount - to != to - from) {
-                return false;
-            }
-            for (int i = to; i < nameCount; i++) {
-                if (!isAmong(i, from, to)) {
-                    return false;
-                }
-            }
-            return true;
-        }
-
-        private boolean isAmong(int name, int from, int to) {
-            for (int i = from; i < to; i++) {
-                if (names[i] == names[name] && nameSorts[i] == nameSorts[name]) {
-                    return true;
-                }
-            }
-            return false;
         }
 
         void addArg(int name, int at) {
@@ -2107,33 +2080,25 @@ public final class LetterPost {
 
         private boolean readAlternatives(Pattern p, int depth) {
             int spot = tokens.spot;
-            int from = rule.nameCount;
-            int to = from;
+            long ahead = rule.bindings;
+            long wanted = ahead;
             boolean same = true;
             Pattern last = null;
             p.what = Pattern.EITHER;
             p.ways = 0;
             for (int i = 0; i <= MOST_ALTERNATIVES && (i == 0 || tokens.type == '|'); i++) {
                 tokens.step();
+                rule.bindings = ahead;
                 Pattern one = readPattern(p.sort, p.place, depth + 1, i == MOST_ALTERNATIVES);
                 if (one == null) {
                     return false;
                 }
-                if (i == 0) {
-                    to = rule.nameCount;
-                    rule.hide(from, to, true);
-                } else {
-                    same = same && rule.isSame(from, to);
-                    rule.nameCount = to;
-                }
+                wanted = i == 0 ? rule.bindings : wanted;
+                same = same && rule.bindings == wanted;
                 last = p.hang(one, last);
                 p.ways = Math.min(Pattern.MANY_WAYS, p.ways + one.ways);
             }
-            if (!expect(')')) {
-                return false;
-            }
-            rule.hide(from, to, false);
-            return same || failAt(NOT_THE_SAME, spot);
+            return expect(')') && (same || failAt(NOT_THE_SAME, spot));
         }
 
         private boolean readGuard() {
@@ -2180,7 +2145,7 @@ public final class LetterPost {
                 failHere(NOT_THERE);
                 return -1;
             }
-            if (rule.nameSorts[name] != Kinds.WHOLE) {
+            if (rule.nameSort(name) != Kinds.WHOLE) {
                 failHere(UNSUITED);
                 return -1;
             }
@@ -2244,7 +2209,7 @@ public final class LetterPost {
                 return failAt(COUNT, caller.callSpot);
             }
             for (int i = 0; i < called.columns; i++) {
-                if (!kinds.suits(caller.nameSorts[caller.args[i]], called.sorts[i])) {
+                if (!kinds.suits(caller.nameSort(caller.args[i]), called.sorts[i])) {
                     return failAt(UNSUITED, caller.argSpots[i]);
                 }
             }

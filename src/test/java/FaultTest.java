@@ -259,12 +259,38 @@ public final class FaultTest {
         faulty(3, eight + "@a:1;}");
         faulty(9, eight + "_ as @j:1;}");
         faulty(3, eight + "_ as @i:1;}");
+        ninthAmongAlternatives();
         String six = "(1|2|3|4|5|6)";
         sound(1, "sort f(whole,whole){" + six + "," + six + ":1;(1|2|3|4),_:2;}");
         faulty(9, "sort f(whole,whole){_,_:0;" + six + "," + six + ":1;@(1|2|3|4),_:2;}");
         faulty(9, "sort f(whole,whole,whole){@" + six + "," + six + "," + six + ":1;}");
         faulty(4, "sort f(whole,whole,whole){" + six + "," + six + "," + six + ":1;1,2,n:@g(n);}");
         faulty(2, "sort f(whole,whole,whole){" + six + "," + six + "," + six + ":1;@");
+    }
+
+    /** The ninth name of a rule is one too many even where an alternative binds few: reading meets it ahead of the ). */
+    private static void ninthAmongAlternatives() {
+        String kinds = "kind A(whole,whole,whole,whole);kind B(A,A);";
+        String eight = "A(a as b,c as d,e as g,h as i)";
+        faulty(9, kinds + "sort f(A){(" + eight + "|@z)");
+        faulty(9, kinds + "sort f(A){(" + eight + "|_ as @z):1;}");
+        faulty(9, kinds + "sort f(A){(" + eight + "|" + eight + "|A(a,b,c,@z)):1;}");
+        faulty(8, kinds + "sort f(A){@(" + eight + "|a):1;}");
+        faulty(8, kinds + "sort f(A){@(a|" + eight + "):1;}");
+        faulty(9, kinds + "sort f(A){(z|A(a as b,c as d,e as g,h as @i)):1;}");
+        faulty(9, kinds + "sort f(A){(A(a,b,c,d)|A(e,g,h,i)|@j):1;}");
+        faulty(8, kinds + "sort f(A){@(A(a,b,c,d)|A(e,g,h,i)|A(a,e,b,i)):1;}");
+        faulty(9, kinds + "sort f(A,whole){(A(a,b,c,d)|A(d,c,e,g)|A(e,g,h,i) as @j),k:1;}");
+        faulty(9, kinds + "sort f(A,A){A(a,b,c,d),(A(e,g,h,i)|@j):1;}");
+        faulty(3, kinds + "sort f(A,A){A(a,b,c,d),(A(e,g,h,i)|@d):1;}");
+        faulty(9, kinds + "sort f(B){(B(A(a,b,c,d),_)|B(_,(A(e,g,h,i)|@j))):1;}");
+        faulty(8, kinds + "sort f(B){(B(A(a,b,c,d),_)|B(_,@(A(e,g,h,i)|a))):1;}");
+        faulty(9, kinds + "sort f(A){((a|a)|(A(b,c,d,e) as g|A(b,c,d,e) as g)|A(h,i,@j,k)):1;}");
+        sound(1, kinds + "sort f(A){(" + eight + "|A(i as h,g as e,d as c,b as a)):a;" + eight + ":b;}");
+        sound(1, kinds + "sort f(A,whole){(A(a,b,c,d)|A(d,c,b,a)) as e,((1 as g|2 as g) as h|(3 as h) as g):1;}");
+        faulty(8, kinds + "sort f(B){(B(A(n,_,_,_),_)|B(@(n|A(n,_,_,_)),_)):1;}");
+        faulty(8, kinds + "sort f(B){@(B(A(n,_,_,_),_)|B((n|n),_)):1;}");
+        faulty(8, kinds + "sort f(B){@(B(n,_)|B(A(n,_,_,_),_)|B(n,_)):1;}");
     }
 
     private static void order() {

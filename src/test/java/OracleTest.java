@@ -312,11 +312,14 @@ public final class OracleTest {
             take("}");
         }
 
+        final Set<String> everBound = new HashSet<>();
+
         void readRule(Fun f) {
             Rule rule = new Rule();
             rule.number = f.rules.size();
             rule.at = peek().at;
             Map<String, Integer> names = new LinkedHashMap<>();
+            everBound.clear();
             for (int c = 0; c < f.sorts.size(); c++) {
                 if (c > 0) {
                     comma();
@@ -384,6 +387,7 @@ public final class OracleTest {
                 case "NAME":
                     pos = t.end;
                     names.put(t.text, sort);
+                    everBound.add(t.text);
                     p.names.add(t.text);
                     break;
                 case "KINDNAME":
@@ -404,13 +408,19 @@ public final class OracleTest {
                 if (names.containsKey(name.text)) {
                     throw new Fault(3, name.at);
                 }
-                if (names.size() == 8) {
+                if (isNinth(name.text)) {
                     throw new Fault(9, name.at);
                 }
                 names.put(name.text, sort);
+                everBound.add(name.text);
                 p.names.add(name.text);
             }
             return p;
+        }
+
+        /** Whether a name would be the ninth of all that the rule binds, in whatever alternative they stand. */
+        boolean isNinth(String name) {
+            return everBound.size() == 8 && !everBound.contains(name);
         }
 
         boolean turned() {
@@ -436,7 +446,7 @@ public final class OracleTest {
                     if (names.containsKey(t.text)) {
                         faults.add(3);
                     }
-                    if (names.size() == 8) {
+                    if (isNinth(t.text)) {
                         faults.add(9);
                     }
                     return;
@@ -1439,6 +1449,108 @@ public final class OracleTest {
         }
     }
 
+    /** Rules that bind many names of few letters in nested alternatives, most of them faulty. */
+    static final class NameMaker {
+        static final String HEAD = "kind S;kind A under S(whole,whole,whole,whole);kind B under S(S,S,truth);sort f(S,S,whole){";
+        final Random r;
+        final StringBuilder s = new StringBuilder(HEAD);
+        final int letters;
+        final int likeliness;
+        int latest;
+
+        NameMaker(Random r) {
+            this.r = r;
+            letters = 7 + r.nextInt(8);
+            likeliness = 2 + r.nextInt(4);
+        }
+
+        String make() {
+            for (int rule = r.nextInt(2); rule < 2; rule++) {
+                pattern('S', 0);
+                s.append(",");
+                pattern('S', 0);
+                s.append(",");
+                pattern('w', 0);
+                s.append(":1;");
+            }
+            return s.append("}").toString();
+        }
+
+        void pattern(char sort, int depth) {
+            int from = s.length();
+            int pick = r.nextInt(6);
+            if (pick < 2 && depth < 4) {
+                int n = 1 + r.nextInt(4);
+                s.append("(");
+                int first = s.length();
+                pattern(sort, depth + 1);
+                String same = s.substring(first);
+                for (int i = 1; i < n; i++) {
+                    s.append("|");
+                    if (r.nextInt(3) > 0) {
+                        s.append(turned(same));
+                    } else {
+                        pattern(sort, depth + 1);
+                    }
+                }
+                s.append(")");
+            } else if (sort == 'S' && pick < 5 && depth < 4) {
+                parts(depth);
+            } else {
+                s.append(r.nextInt(likeliness) == 0 ? "_" : name());
+            }
+            if (s.length() > from && r.nextInt(likeliness) == 0) {
+                s.append(" as ").append(name());
+            }
+        }
+
+        /** The same pattern with two of its names changed for one another. */
+        String turned(String pattern) {
+            String one = String.valueOf((char) ('a' + r.nextInt(letters)));
+            String other = String.valueOf((char) ('a' + r.nextInt(letters)));
+            return one.equals(other) ? pattern
+                : pattern.replace(" as ", "#").replace(one, "!").replace(other, one).replace("!", other).replace("#", " as ");
+        }
+
+        void parts(int depth) {
+            String sorts = r.nextInt(3) > 0 ? "wwww" : "SSt";
+            s.append(sorts.equals("SSt") ? "B" : "A");
+            for (int i = 0; i < sorts.length(); i++) {
+                s.append(i == 0 ? "(" : ",");
+                pattern(sorts.charAt(i), depth + 1);
+            }
+            s.append(")");
+        }
+
+        /** Mostly the next letter, so that a rule comes to many names ahead of one that it binds already. */
+        String name() {
+            latest = r.nextInt(12) == 0 ? r.nextInt(letters) : (latest + 1) % letters;
+            return String.valueOf((char) ('a' + latest));
+        }
+    }
+
+    /** Promise 3: names alone, for random texts seldom bind as many as the limit. */
+    private static void oneNameRun(long seed) {
+        Random r = new Random(seed);
+        LetterPost x = new LetterPost();
+        for (int i = 0; i < 2; i++) {
+            String text = new NameMaker(r).make();
+            if (text.length() <= 1600) {
+                int[] fault = new int[1];
+                int want = modelRead(new Model(), text, fault);
+                feedAll(x, text);
+                int got = x.read();
+                due("names of seed " + seed, "read " + text, got, want);
+                due("names of seed " + seed, "fault " + text, x.fault(), fault[0]);
+                String result = want >= 0 ? "read" : want == LetterPost.FULL ? "full" : "fault " + fault[0];
+                nameResults.merge(result, 1, Integer::sum);
+                if (got >= 0) {
+                    return;
+                }
+            }
+        }
+    }
+
     private static String spoiled(Random r, String text) {
         StringBuilder s = new StringBuilder(text);
         String bytes = ";,(){}:|_<=>+-*/%.' \nabnfAB0129#";
@@ -1701,6 +1813,7 @@ public final class OracleTest {
 
     private static final int[] outcomes = new int[5];
     private static final Map<String, Integer> results = new HashMap<>();
+    private static final Map<String, Integer> nameResults = new HashMap<>();
 
     private static void oneRun(long seed) {
         Random r = new Random(seed);
@@ -1765,8 +1878,12 @@ public final class OracleTest {
         long from = args.length > 1 ? Long.parseLong(args[1]) : 0;
         for (long seed = from; seed < from + runs; seed++) {
             oneRun(seed);
+            for (int i = 0; i < 5; i++) {
+                oneNameRun(seed * 5 + i);
+            }
         }
-        System.out.println(checked + " answers, outcomes " + java.util.Arrays.toString(outcomes) + ", texts " + results);
+        System.out.println(checked + " answers, outcomes " + java.util.Arrays.toString(outcomes) + ", texts " + results
+            + ", texts of names " + nameResults);
         System.out.println(wrong == 0 ? "all answers are as due" : wrong + " answers are not as due");
         if (wrong != 0) {
             System.exit(1);
