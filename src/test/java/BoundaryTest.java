@@ -684,6 +684,102 @@ public final class BoundaryTest {
         due("121 with guards", g.remake(0, 0), FULL);
         due("unreached with guards", g.unreached(0, 0), FULL);
         due("116 without", g.missing(0), 1);
+        LetterPost first = read(1, edgeText(38, 0, 0).replace("whole){", "whole){K,K,1 if 1<2:1;"));
+        addLeaves(first, 19);
+        due("122 with the guard of the first rule", first.remake(0, 0), FULL);
+        due("unreached with it", first.unreached(0, 0), FULL);
+        due("120 without", first.missing(0), 1);
+    }
+
+    /** All that is told of a tree, what is BAD among it. */
+    private static String wholeTree(LetterPost x) {
+        StringBuilder s = new StringBuilder();
+        for (int what = 3; what < 6; what++) {
+            s.append(x.function(0, what)).append(' ');
+        }
+        for (int n = 0; n <= x.function(0, 3); n++) {
+            for (int what = 0; what < 5; what++) {
+                s.append(' ').append(x.node(0, n, what));
+            }
+            for (int i = 0; i <= Math.max(0, x.node(0, n, 2)); i++) {
+                s.append(',').append(x.branch(0, n, i));
+            }
+        }
+        return s.toString();
+    }
+
+    private static void anew() {
+        says("THE TREE of a function is made anew by a WAY: how many nodes (nothing of trees made ahead is left)");
+        String[] texts = {"sort f(whole,text,truth){1,'a',_:1;_,'b',true:2;}", "sort f(truth,truth,truth){true,_,false:1;_,false,true if 1<2:2;}",
+            "kind A;kind B under A(truth,A);sort f(A,truth){B(true,B(_,none)),true:1;_,false if 1<2:2;none,_:3;}"};
+        int[] orders = {30, 31, 1302, 2031, 31323};
+        for (String text : texts) {
+            for (int order : orders) {
+                LetterPost x = read(1, text);
+                for (int left = order; left > 0; left /= 10) {
+                    LetterPost once = read(1, text);
+                    int way = left % 10;
+                    due("nodes by " + way, x.remake(0, way), once.remake(0, way));
+                    x.missing(0);
+                    x.unreached(0, 0);
+                }
+                LetterPost once = read(1, text);
+                once.remake(0, Integer.parseInt(String.valueOf(order).substring(0, 1)));
+                dueText("the tree of " + text + " made anew by " + order, wholeTree(x), wholeTree(once));
+            }
+        }
+        LetterPost x = read(1, texts[0]);
+        int[] depths = {4, 3, 4, 3};
+        for (int way = 0; way < 8; way++) {
+            x.remake(0, way % 4);
+            due("depth by " + way % 4, x.function(0, 5), depths[way % 4]);
+        }
+    }
+
+    /** A pattern of so many KINDS of four PARTS in the first, and so many more in these; all other PARTS are NOTHING. */
+    private static String wide(int inner, int left) {
+        StringBuilder s = new StringBuilder("P(");
+        for (int i = 0; i < 4; i++) {
+            s.append(i == 0 ? "" : ",").append(i < inner ? wide((left + 3 - i) / 4, 0) : "none");
+        }
+        return s.append(")").toString();
+    }
+
+    /** What fits that pattern; its last PART's last PART is another NOTHING. */
+    private static int makeWide(LetterPost x, int inner, int left, int last) {
+        int[] parts = new int[4];
+        for (int i = 0; i < 4; i++) {
+            parts[i] = i < inner ? makeWide(x, (left + 3 - i) / 4, 0, i == 3 ? last : 0) : 0;
+        }
+        return x.make(0, parts[0], parts[1], parts[2], inner < 4 ? last : parts[3]);
+    }
+
+    private static void manyPlaces() {
+        says("a PLACE (a column, then PARTS down from there); a TEST node for each, but ANSWER nodes of 2 behind all other BRANCHES");
+        for (int left = 0; left <= 9; left++) {
+            int tests = 21 + 4 * left;
+            LetterPost x = read(1, "kind P(P,P,P,P);sort f(P){" + wide(4, left).replaceAll("none\\)\\)$", "none as z)as y)as x") + ":1;w:2;}");
+            x.nothing();
+            int last = x.nothing();
+            int full = makeWide(x, 4, left, last);
+            due("SIZE", x.value(full, 2), tests);
+            int fourth = x.value(full, 6);
+            int[] bound = {last, fourth, full, NONE};
+            for (int by = -1; by < 4; by++) {
+                due("nodes", by < 0 ? x.function(0, 3) : x.remake(0, by), 2 * tests + 1);
+                due("depth", x.function(0, 5), tests + 1);
+                due("it FITS", by < 0 ? x.plain(0, full, 0, 0) : x.sort(0, full, 0, 0), 0);
+                due("TEST nodes come to", x.told(3), by < 0 ? 0 : tests);
+                for (int i = 0; i < 4; i++) {
+                    due("bound " + i, x.bound(i), bound[i]);
+                }
+            }
+            // with 57 tests the letter has no room for one more in its last PLACE
+            int end = x.make(0, x.value(fourth, 3), x.value(fourth, 4), x.value(fourth, 5), left < 9 ? x.make(0, 0, 0, 0, 0) : 0);
+            int other = x.make(0, x.value(full, 3), x.value(full, 4), left < 9 ? x.value(full, 5) : 0, end);
+            due("the last PLACE is not as wanted", x.sort(0, other, 0, 0), 1);
+            due("by rules", x.plain(0, other, 0, 0), 1);
+        }
     }
 
     private static void ways() {
@@ -1354,6 +1450,8 @@ public final class BoundaryTest {
         functions();
         nodes();
         treeEdges();
+        anew();
+        manyPlaces();
         ways();
         branches();
         judged();

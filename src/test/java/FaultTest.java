@@ -279,6 +279,13 @@ public final class FaultTest {
         says("plain: _ | NAME | number [ .. number ] | .. | ( pattern { | pattern } )");
         faulty(2, "sort f(whole){-@n:1;}");
         faulty(2, "sort f(whole){1..@n:1;}");
+        faulty(2, "sort f(whole){-@as n:1;}");
+        faulty(2, "sort f(whole){-@:1;}");
+        faulty(2, "sort f(whole){1..@as n:1;}");
+        faulty(2, "sort f(whole){1..-@:1;}");
+        faulty(2, "sort f(whole,whole){-@n,1:1;}");
+        faulty(2, "sort f(whole,whole){1..@n,1:1;}");
+        faulty(2, "kind B(whole,whole);sort f(B){B(-@n,1):1;}");
         faulty(2, "sort f(whole){1..-@-1:1;}");
         faulty(2, "sort f(whole){1..2@..3:1;}");
         faulty(2, "sort f(whole){(1|@):1;}");
@@ -514,10 +521,13 @@ public final class FaultTest {
         says("9 .. the 17th rule of a function");
         sound(1, many("sort f(whole){", "_:%;", 16, "}"));
         sound(2, many(many("sort f(whole){", "_:%;", 16, "}sort g(whole){"), "_:%;", 16, "}"));
-        String[] firsts = {"_", "n", "1", "-1", "1..2", "-2..-1", "-2..1", "5..5", "(1|2)", "(a|b)", "5..n", "-x", "5..", "1#"};
+        String[] firsts = {"_", "n", "1", "-1", "1..2", "-2..-1", "-2..1", "5..5", "-1..-1", "(1|2)", "(a|b)", "5..n", "-x", "5..", "1#",
+            "7 3", "7..n 3", "-3 as n"};
         for (String first : firsts) {
             faulty(9, many("sort f(whole){", "_:%;", 16, "@" + first + ":1;}"));
         }
+        faulty(9, many("sort f(whole){", "_:%;", 16, "@7:3;}"));
+        faulty(9, many("sort f(whole,whole){", "_,_:%;", 16, "@7,3:1;}"));
         faulty(9, many("kind A;sort f(A,A){", "_,_:%;", 16, "@A,A:1;}"));
         faulty(9, many("kind A;sort f(A,A){", "_,_:%;", 16, "@none,A:1;}"));
         faulty(9, many("sort f(truth){", "_:%;", 16, "@true:1;}"));
@@ -534,6 +544,8 @@ public final class FaultTest {
         says("9 .. the 7th alternative");
         sound(1, "sort f(whole){(1|2|3|4|5|6):1;}");
         faulty(9, "sort f(whole){(1|2|3|4|5|6|@7):1;}");
+        faulty(9, "sort f(whole){(1|2|3|4|5|6|@7|3):1;}");
+        faulty(9, "sort f(whole){(1|2|3|4|5|6|@-1..-1):1;}");
         faulty(9, "sort f(whole){(1|2|3|4|5|6|@(7)):1;}");
         faulty(9, "sort f(whole){(n|n|n|n|n|n|@n):1;}");
         sound(1, "sort f(whole){((1|2|3|4|5|6)|(1|2|3|4|5|6)|7|8|9|0):1;}");
@@ -604,6 +616,8 @@ public final class FaultTest {
                 faulty(one.charAt(0) - '0', full[i] + "@" + one.substring(1));
             }
         }
+        faulty(3, "sort f(whole,whole){n,((((((@n");
+        faulty(3, "sort f(whole,whole){n,(1|2|3|4|5|6|@n");
         String eight = "kind K(whole,whole,whole,whole);sort f(K,K,whole){K(a,b,c,d),K(e,g,h,i),";
         faulty(3, eight + "@a:1;}");
         faulty(3, eight + "_ as @i:1;}");
