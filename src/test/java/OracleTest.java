@@ -8,6 +8,8 @@ import java.util.Map;
 import java.util.Random;
 import java.util.Set;
 import java.util.TreeSet;
+import java.util.regex.Matcher;
+import java.util.regex.Pattern;
 
 /** Promises 2 to 26: random texts, faulty ones too, and random letters, against a slow and literal reading of the document. */
 public final class OracleTest {
@@ -1583,6 +1585,95 @@ public final class OracleTest {
         return s.length() > 1600 ? s.substring(0, 1600) : s.toString();
     }
 
+    private static final Pattern PIECE =
+        Pattern.compile("[a-z][a-z0-9]*|[A-Z][a-z0-9]*|[0-9]+|'[a-z]*'|\\.\\.|[^ \n]");
+    private static final List<String> STRAYS = List.of("kind", "under", "sort", "if", "as", "whole", "truth", "text", "true",
+        "false", "none", "n0", "n1", "m0", "q", "f0", "f9", "A", "B", "Z", "0", "7", "-", "..", "'a'", "_", "(", ")", "|",
+        ",", ":", ";", "=", "%", "{", "}", ".", "?");
+
+    private static int classOf(String piece) {
+        char c = piece.charAt(0);
+        return STRAYS.indexOf(piece) >= 0 && STRAYS.indexOf(piece) < 11 ? 0 : Character.isLowerCase(c) ? 1
+            : Character.isUpperCase(c) ? 2 : Character.isDigit(c) ? 3 : c == '\'' ? 4 : 5;
+    }
+
+    /** A text with whole tokens changed, mostly for ones of the same class, so that few of its faults are 2. */
+    private static String respelled(Random r, String text) {
+        List<String> pieces = new ArrayList<>();
+        Matcher found = PIECE.matcher(text);
+        while (found.find()) {
+            pieces.add(found.group());
+        }
+        int times = 1 + r.nextInt(3);
+        for (int i = 0; i < times && !pieces.isEmpty(); i++) {
+            int at = r.nextInt(pieces.size());
+            for (int tries = 0; tries < 5 && classOf(pieces.get(at)) == 5; tries++) {
+                at = r.nextInt(pieces.size());
+            }
+            respellOne(r, pieces, at);
+        }
+        StringBuilder s = new StringBuilder();
+        for (String piece : pieces) {
+            boolean words = s.length() > 0 && Character.isLetterOrDigit(s.charAt(s.length() - 1))
+                && Character.isLetterOrDigit(piece.charAt(0));
+            s.append(words || r.nextInt(20) == 0 ? r.nextInt(9) == 0 ? "\n" : " " : "").append(piece);
+        }
+        return s.length() > 1600 ? s.substring(0, 1600) : s.toString();
+    }
+
+    private static void respellOne(Random r, List<String> pieces, int at) {
+        List<String> same = new ArrayList<>();
+        for (String piece : pieces) {
+            if (classOf(piece) == classOf(pieces.get(at))) {
+                same.add(piece);
+            }
+        }
+        switch (r.nextInt(16)) {
+            case 0:
+                pieces.remove(at);
+                break;
+            case 1:
+                pieces.set(at, STRAYS.get(r.nextInt(STRAYS.size())));
+                break;
+            case 2:
+                pieces.add(at, STRAYS.get(r.nextInt(STRAYS.size())));
+                break;
+            case 3:
+                int from = r.nextInt(pieces.size());
+                pieces.addAll(at, new ArrayList<>(pieces.subList(from, Math.min(pieces.size(), from + 1 + r.nextInt(9)))));
+                break;
+            default:
+                pieces.set(at, same.get(r.nextInt(same.size())));
+                break;
+        }
+    }
+
+    /** Promises 3 and 4: texts with tokens changed, several on one object until one is read. */
+    private static void oneRespelledRun(long seed) {
+        Random r = new Random(~seed);
+        LetterPost x = new LetterPost();
+        String sound = new Maker(r).make();
+        for (int i = 0; i < 4; i++) {
+            String text = respelled(r, sound);
+            Model m = new Model();
+            int[] fault = new int[1];
+            int want = modelRead(m, text, fault);
+            String where = "respelled of seed " + seed;
+            feedAll(x, text);
+            int got = x.read();
+            due(where, "read " + text, got, want);
+            due(where, "fault " + text, x.fault(), fault[0]);
+            respelledResults.merge(want >= 0 ? "read" : want == LetterPost.FULL ? "full" : "fault " + fault[0], 1, Integer::sum);
+            compareKinds(where, x, m);
+            if (got >= 0) {
+                for (int f = 0; f < m.funs.size(); f++) {
+                    compareTree(where + " " + text, x, m, f);
+                }
+                return;
+            }
+        }
+    }
+
     // ---- comparing ----
 
     private static void feedAll(LetterPost x, String text) {
@@ -1718,7 +1809,8 @@ public final class OracleTest {
                 break;
             default:
                 val.what = 4;
-                val.kind = r.nextInt(m.kinds.size() + 1);
+                // the newest kind oftener, for it may be a late one
+                val.kind = r.nextInt(4) == 0 ? m.kinds.size() - 1 : r.nextInt(m.kinds.size() + 1);
                 int[] parts = new int[4];
                 for (int i = 0; i < 4; i++) {
                     parts[i] = pickPart(m, r, val.kind, i);
@@ -1814,6 +1906,7 @@ public final class OracleTest {
     private static final int[] outcomes = new int[5];
     private static final Map<String, Integer> results = new HashMap<>();
     private static final Map<String, Integer> nameResults = new HashMap<>();
+    private static final Map<String, Integer> respelledResults = new HashMap<>();
 
     private static void oneRun(long seed) {
         Random r = new Random(seed);
@@ -1856,7 +1949,7 @@ public final class OracleTest {
                 int way = r.nextInt(4);
                 due(where, "remake " + f + " " + way, x.remake(f, way), m.remake(m.funs.get(f), way));
                 compareTree(where, x, m, f);
-            } else if (pick == 11 && r.nextInt(3) == 0) {
+            } else if (pick == 11 && r.nextInt(2) == 0) {
                 addLate(where, x, m, r);
             }
         }
@@ -1865,6 +1958,9 @@ public final class OracleTest {
     private static void addLate(String where, LetterPost x, Model m, Random r) {
         String name = String.valueOf((char) ('A' + r.nextInt(26)));
         String upper = String.valueOf((char) ('A' + r.nextInt(Math.min(26, m.kinds.size() + 2))));
+        for (int k = r.nextInt(2); k < m.kinds.size(); k++) {
+            upper = m.kinds.get(k).sealed ? m.kinds.get(k).name : upper;
+        }
         String text = "kind " + name + " under " + upper + (r.nextInt(2) == 0 ? "" : "(whole," + upper + ")") + ";";
         modelAdd(m, x, where, r.nextInt(4) == 0 ? spoiled(r, text) : text);
         compareKinds(where, x, m);
@@ -1878,12 +1974,13 @@ public final class OracleTest {
         long from = args.length > 1 ? Long.parseLong(args[1]) : 0;
         for (long seed = from; seed < from + runs; seed++) {
             oneRun(seed);
+            oneRespelledRun(seed);
             for (int i = 0; i < 5; i++) {
                 oneNameRun(seed * 5 + i);
             }
         }
         System.out.println(checked + " answers, outcomes " + java.util.Arrays.toString(outcomes) + ", texts " + results
-            + ", texts of names " + nameResults);
+            + ", texts of names " + nameResults + ", respelled " + respelledResults);
         System.out.println(wrong == 0 ? "all answers are as due" : wrong + " answers are not as due");
         if (wrong != 0) {
             System.exit(1);
